@@ -1,0 +1,16 @@
+/** All tests of the project; ends with exit code 1 if one fails. Its argument is the file of the class. */
+public final class AllTests {
+    private AllTests() {
+    }
+
+    public static void main(String[] args) throws Exception {
+        FaceTest.run(args.length > 0 ? args[0] : "src/main/java/GrowsByHalf.java");
+        PromiseTest.run();
+        DearestTest.run();
+        RandomRunTest.run();
+        System.out.println(Check.passed + " passed, " + Check.failed + " failed");
+        if (Check.failed > 0) {
+            System.exit(1);
+        }
+    }
+}
