@@ -1,6 +1,6 @@
 import java.util.Arrays;
 
-/** A valley in which tales grow at each telling. What each call answers is told in ../shared/DOC.md. */
+/** A valley in which tales grow at each telling. ../shared/DOC.md tells what each call answers. */
 public final class GrowsByHalf {
     public static final int NONE = -1, UNKNOWN = -101, OUTSIDE = -102, STATE = -103, FULL = -104;
 
@@ -27,6 +27,7 @@ public final class GrowsByHalf {
     private final Draws draws = new Draws();
     private boolean hasImage;
 
+    /** What is held begins as a new object has it. */
     public GrowsByHalf() {
     }
 
@@ -370,7 +371,7 @@ public final class GrowsByHalf {
     }
 
     private static boolean isSuch(int kind, int asked) {
-        return asked == TELLER || asked == kind || asked == MODEST && kind == DOCTOR;
+        return asked == TELLER || asked == kind || (asked == MODEST && kind == DOCTOR);
     }
 
     private static long mixed(long h, long number) {
@@ -469,7 +470,7 @@ public final class GrowsByHalf {
             int letters = 0;
             for (int at = 0; at < 8; at++) {
                 int code = codeIn(w, at);
-                if (code > MOST_CODE || code != 0 && letters < at) {
+                if (code > MOST_CODE || (code != 0 && letters < at)) {
                     return NONE;
                 }
                 letters += code != 0 ? 1 : 0;
@@ -478,7 +479,7 @@ public final class GrowsByHalf {
         }
 
         private static int codeIn(long w, int at) {
-            return (int) (w >>> 8 * at & 255);
+            return (int) ((w >>> (8 * at)) & 255);
         }
 
         boolean hasRoomFor(int more) {
@@ -737,12 +738,12 @@ public final class GrowsByHalf {
         }
 
         boolean isKnown(int a, int b) {
-            return hasBoth(a, b) && (known[a] >> b & 1) == 1;
+            return hasBoth(a, b) && ((known[a] >> b) & 1) == 1;
         }
 
         void setKnown(int a, int b, boolean is) {
             if (hasBoth(a, b)) {
-                known[a] = is ? known[a] | 1 << b : known[a] & ~(1 << b);
+                known[a] = is ? known[a] | (1 << b) : known[a] & ~(1 << b);
             }
         }
 
@@ -921,12 +922,12 @@ public final class GrowsByHalf {
         }
 
         private boolean isMet(int state) {
-            return state < 0 || state >= STATES || (met[state / 64] >> state % 64 & 1) == 1;
+            return state < 0 || state >= STATES || ((met[state / 64] >> (state % 64)) & 1) == 1;
         }
 
         private void join(int first, int state) {
             if (!isMet(state) && inLine < STATES) {
-                met[state / 64] |= 1L << state % 64;
+                met[state / 64] |= 1L << (state % 64);
                 line[inLine] = first * STATES + state;
                 inLine++;
             }
@@ -939,11 +940,11 @@ public final class GrowsByHalf {
         private final long[] ways = new long[MOST_TELLERS + 1];
         private int tellers;
 
-        void weigh(int tellers, int tenths) {
-            this.tellers = Math.min(tellers, MOST_TELLERS);
+        void weigh(int howMany, int tenths) {
+            tellers = Math.min(howMany, MOST_TELLERS);
             Arrays.fill(ways, 0);
             ways[0] = 1;
-            for (int told = 1; told <= this.tellers; told++) {
+            for (int told = 1; told <= tellers; told++) {
                 for (int growing = told; growing > 0; growing--) {
                     ways[growing] = ways[growing] * tenths + ways[growing - 1] * (10 - tenths);
                 }

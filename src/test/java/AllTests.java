@@ -7,6 +7,7 @@ public final class AllTests {
         FaceTest.run(args.length > 0 ? args[0] : "src/main/java/GrowsByHalf.java");
         PromiseTest.run();
         DearestTest.run();
+        DeepChainTest.run();
         RandomRunTest.run();
         System.out.println(Check.passed + " passed, " + Check.failed + " failed");
         if (Check.failed > 0) {

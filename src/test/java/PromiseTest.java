@@ -40,6 +40,7 @@ final class PromiseTest {
         one();
         ask();
         askOfLikeOnes();
+        askFromOneToNinetyNine();
         chain();
         chainOfTwenty();
         chainThirtyTimes();
@@ -590,6 +591,22 @@ final class PromiseTest {
         GrowsByHalf capped = Texts.valley("32,21,10", BRAGGART, BRAGGART, DOCTOR, TELLER);
         Texts.law(capped, "dddd");
         due("not who has it as 9999 mostly", capped.ask(3), 1);
+    }
+
+    /** In each of these one size more or fewer at an end would name another one. */
+    private static void askFromOneToNinetyNine() {
+        GrowsByHalf x = Texts.valley("12,02,20", BRAGGART, DOCTOR, MODEST);
+        Texts.law(x, "-9/6");
+        due("98 alike at 2, by 99 it has 1; 99 at 1, who is not told", x.ask(0), 2);
+        GrowsByHalf y = Texts.valley("01,21", MODEST, MODEST, BRAGGART);
+        Texts.law(y, "/5-5d");
+        due("99 alike at both, by 100 it would have 2", y.ask(2), 0);
+        GrowsByHalf z = Texts.valley("21,10,01", BRAGGART, TELLER, TELLER);
+        Texts.law(z, "-1");
+        due("0 has 1 and 2 alike", z.ask(2), 1);
+        GrowsByHalf v = Texts.valley("21,01,10", TELLER, DOCTOR, BRAGGART);
+        Texts.law(v, "-1+2");
+        due("1 would have 0 and 1 alike, but 0 does not count", v.ask(2), 1);
     }
 
     private static void chain() {

@@ -8,7 +8,7 @@ import java.util.Random;
 
 /** Runs of 512 calls, by seeds that are always the same, on the class and on PlainValley. */
 final class RandomRunTest {
-    private static final int RUNS = 160;
+    private static final int RUNS = 300;
     private static final int CALLS = 512;
     private static final int[] EDGES = {
         -1, -2, 0, 1, 2, 3, 4, 5, 7, 8, 9, 10, 11, 16, 59, 60, 61, 99, 100, 999, 1000, 9998, 9999, 10000,
@@ -94,7 +94,7 @@ final class RandomRunTest {
             case "week": return prepared(random.nextInt(4) > 0 ? weekText() : null);
             case "grown": return row(size());
             case "telling": return row(some(16), some(2));
-            case "person": return row(plain.people() < peopleAtMost ? some(4) : 4 + random.nextInt(3));
+            case "person": return row(plain.people() < peopleAtMost || peopleAtMost == 8 ? some(4) : 4 + random.nextInt(3));
             case "kind": return row(person());
             case "as": return row(person(), some(4));
             case "tells": return row(person(), size());
