@@ -737,6 +737,11 @@ public final class GrowsByHalf {
             return has(person) ? kinds[person] : NONE;
         }
 
+        /** All whom somebody knows, as bits. */
+        int knownBy(int person) {
+            return has(person) ? known[person] : 0;
+        }
+
         boolean isKnown(int a, int b) {
             return hasBoth(a, b) && ((known[a] >> b) & 1) == 1;
         }
@@ -907,9 +912,10 @@ public final class GrowsByHalf {
             }
             int person = line[place] % STATES / SIZES;
             int told = law.toldBy(folk.kindOf(person), line[place] % SIZES);
+            int known = folk.knownBy(person);
             for (int whom = 0; whom < folk.people(); whom++) {
                 int state = stateOf(whom, told);
-                if (folk.isKnown(person, whom) && !isMet(state)) {
+                if (((known >> whom) & 1) == 1 && !isMet(state)) {
                     int first = tellings == 1 ? whom : line[place] / STATES;
                     join(first, state);
                     if (state == goal) {
