@@ -6,6 +6,14 @@ public final class AllTests {
     public static void main(String[] args) throws Exception {
         FaceTest.run(args.length > 0 ? args[0] : "src/main/java/GrowsByHalf.java");
         PromiseTest.run();
+        EdgesOfTexts.run();
+        EdgesOfPeople.run();
+        EdgesOfTales.run();
+        EdgesOfWhatItWas.run();
+        EdgesOfChains.run();
+        EdgesOfAll.run();
+        RefusalTest.run();
+        LongRunTest.run();
         DearestTest.run();
         DeepChainTest.run();
         RandomRunTest.run();

@@ -3,6 +3,8 @@ final class Check {
     static int passed = 0;
     static int failed = 0;
 
+    private static String sentence = "";
+
     private Check() {
     }
 
@@ -17,5 +19,14 @@ final class Check {
 
     static void isTrue(String what, boolean is) {
         same(what, is ? 1 : 0, 1);
+    }
+
+    /** The sentence of the document that the following calls of due() are about. */
+    static void sentence(String words) {
+        sentence = words;
+    }
+
+    static void due(String call, long got, long due) {
+        same("'" + sentence + "': " + call, got, due);
     }
 }
