@@ -8,7 +8,7 @@ import java.util.Random;
 
 /** Runs of 512 calls, by seeds that are always the same, on the class and on PlainValley. */
 final class RandomRunTest {
-    private static final int RUNS = 300;
+    private static final int RUNS = 400;
     private static final int CALLS = 512;
     private static final int[] EDGES = {
         -1, -2, 0, 1, 2, 3, 4, 5, 7, 8, 9, 10, 11, 16, 59, 60, 61, 99, 100, 999, 1000, 9998, 9999, 10000,
@@ -53,7 +53,8 @@ final class RandomRunTest {
     }
 
     private boolean isAlike() {
-        for (int call = 0; call < CALLS; call++) {
+        // A text on the page takes up to eight calls at once; the last call is the digest.
+        while (told.size() < CALLS - 9) {
             boolean alike = isNextAlike();
             if (!alike) {
                 System.out.println(String.join("\n", told.subList(Math.max(0, told.size() - 60), told.size())));
