@@ -25,6 +25,7 @@ final class EdgesOfAll {
         countRefused();
         digestOfPeople();
         digestInOrder();
+        digestOfLikeliest();
         digestWraps();
         digestChangesNothing();
     }
@@ -330,6 +331,18 @@ final class EdgesOfAll {
         GrowsByHalf empty = new GrowsByHalf();
         empty.letters(0x7E01L);
         Check.due("of the least and the greatest code", empty.digest(), mixed(numbersOf(empty, "\u0001~")));
+    }
+
+    /** By these two laws likeliest() tells something else of 2 or 4, of 4 or 6, of 19 or 21. */
+    private static void digestOfLikeliest() {
+        Check.sentence("digest: what likeliest() tells of 3, 5, 20");
+        int[] due = {18, 21};
+        for (int at = 0; at < 2; at++) {
+            GrowsByHalf x = new GrowsByHalf();
+            Texts.law(x, at == 0 ? "+1" : "-1");
+            Check.due("likeliest(3, 5, 20)", x.likeliest(3, 5, 20), due[at]);
+            Check.due("digest()", x.digest(), mixed(numbersOf(x, "")));
+        }
     }
 
     /** The sums without an end take far more than a long holds; the digest is their last 64 bits. */

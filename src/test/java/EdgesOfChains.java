@@ -12,6 +12,8 @@ final class EdgesOfChains {
     static void run() {
         noTellings();
         twentyAtMost();
+        twentyOfAllWhoKnowAll();
+        eachChainBeginsAnew();
         justSoBig();
         chainOfLikeOnes();
         fewestFirst();
@@ -27,6 +29,7 @@ final class EdgesOfChains {
         chanceRefused();
         likeliestFirst();
         likeliestOfLikeOnes();
+        likeliestOfOneWay();
         likeliestNone();
         likeliestRefused();
         gossipDraws();
@@ -80,6 +83,41 @@ final class EdgesOfChains {
         chain(eight, 0, 5, 3, 7, 19, 1);
         chain(eight, 0, 5, 4, 7, 20, 1);
         chain(eight, 0, 5, 5, 7, NONE, NONE);
+    }
+
+    private static void twentyOfAllWhoKnowAll() {
+        Check.sentence("20 at most, the fewest TELLINGS, where all KNOW all");
+        GrowsByHalf x = Texts.valley("", 0, 0, 0, 0, 0, 0, 0, 0);
+        Texts.law(x, "+1");
+        for (int pair = 0; pair < 64; pair++) {
+            x.knows(pair / 8, pair % 8, true);
+        }
+        chain(x, 0, 0, 0, 1, NONE, NONE);
+        chain(x, 0, 0, 1, 1, 1, 1);
+        chain(x, 0, 0, 7, 1, 1, 7);
+        chain(x, 0, 0, 1, 2, 2, 2);
+        chain(x, 0, 0, 0, 2, 2, 1);
+        chain(x, 0, 0, 1, 19, 19, 1);
+        chain(x, 0, 0, 0, 20, 20, 1);
+        chain(x, 7, 9979, 7, 9999, 20, 0);
+        chain(x, 7, 9978, 7, 9999, NONE, NONE);
+        chain(x, 0, 0, 7, 20, 20, 1);
+        chain(x, 0, 0, 7, 21, NONE, NONE);
+    }
+
+    private static void eachChainBeginsAnew() {
+        Check.sentence("by the first PERSON at first: what an earlier chain() came to is none of it");
+        GrowsByHalf x = Texts.valley("", MODEST, MODEST, MODEST);
+        x.knows(0, 1, true);
+        chain(x, 1, 5, 1, 0, NONE, NONE);
+        chain(x, 0, 0, 1, 0, 1, 1);
+        chain(x, 1, 5, 1, 0, NONE, NONE);
+        chain(x, 0, 5, 1, 5, 1, 1);
+        chain(x, 1, 7, 0, 5, NONE, NONE);
+        chain(x, 1, 7, 1, 5, NONE, NONE);
+        chain(x, 2, 5, 1, 5, NONE, NONE);
+        chain(x, 0, 5, 1, 5, 1, 1);
+        chain(x, 0, 6, 1, 5, NONE, NONE);
     }
 
     private static void justSoBig() {
@@ -392,6 +430,18 @@ final class EdgesOfChains {
         likeliest(x, 1, 6, 3, 3);
         likeliest(x, 1, 5, 3, 3);
         likeliest(x, 1, 4, 3, 27);
+    }
+
+    private static void likeliestOfOneWay() {
+        Check.sentence("by which that is likeliest: be it as unlikely as can be");
+        GrowsByHalf x = new GrowsByHalf();
+        likeliest(x, 1, 1, 8, 8);
+        likeliest(x, 9, 1, 8, 8);
+        chance(x, 9, 1, 8, 8, 1, 1000000000);
+        Texts.law(x, "+9+2");
+        likeliest(x, 9, 9, 198, 99);
+        chance(x, 9, 9, 99, 198, 1, 1000000000);
+        likeliest(x, 9, 9, 199, NONE);
     }
 
     private static void likeliestNone() {

@@ -23,6 +23,7 @@ final class EdgesOfTales {
         capped();
         fromTheOneThen();
         seenItSo();
+        fromAlone();
         sixteenOfThem();
         sizeAndFromRefused();
     }
@@ -279,6 +280,21 @@ final class EdgesOfTales {
         has(y, 0, 2, 1, NONE);
         y.see(2, 0, 2);
         has(y, 0, 2, 4, 1);
+    }
+
+    /** from() is asked without size() ahead of it, and behind another tale's. */
+    private static void fromAlone() {
+        Check.sentence("From whom a PERSON has a TALE as it has it behind THE WEEK");
+        GrowsByHalf x = Texts.valley("01,12", TELLER, TELLER, TELLER);
+        x.see(0, 0, 10);
+        x.see(3, 1, 10);
+        Check.due("from(2, 0)", x.from(2, 0), 1);
+        Check.due("from(1, 0)", x.from(1, 0), 0);
+        Check.due("from(1, 3)", x.from(1, 3), NONE);
+        Check.due("from(1, 0)", x.from(1, 0), 0);
+        Check.due("from(1, 2)", x.from(1, 2), NONE);
+        x.drop(0);
+        Check.due("from(1, 0)", x.from(1, 0), NONE);
     }
 
     private static void sixteenOfThem() {

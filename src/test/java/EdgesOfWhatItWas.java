@@ -9,6 +9,7 @@ final class EdgesOfWhatItWas {
 
     static void run() {
         firstsOfWitness();
+        firstsOfEachSize();
         firstsByLaws();
         firstsCapped();
         firstsOfToldBack();
@@ -30,6 +31,7 @@ final class EdgesOfWhatItWas {
         notHim();
         askedLeastOfLikeOnes();
         notAtAll();
+        askedOfOneToNinetyNine();
         byHimAlone();
         askRefused();
     }
@@ -62,6 +64,17 @@ final class EdgesOfWhatItWas {
             firsts(x, person, 1000, 0, NONE, NONE);
             firsts(x, person, 1001, 0, NONE, NONE);
             firsts(x, person, 9999, 0, NONE, NONE);
+        }
+    }
+
+    private static void firstsOfEachSize() {
+        Check.sentence("FIRSTS of a TALE: all SIZES (0 to 999), each of them");
+        for (int from = 0; from < 1000; from += 100) {
+            GrowsByHalf x = Texts.valley("01", MODEST, MODEST);
+            x.see(0, 0, 5);
+            for (int size = from; size < from + 100; size++) {
+                firsts(x, 1, size, 1, size, size);
+            }
         }
     }
 
@@ -437,6 +450,23 @@ final class EdgesOfWhatItWas {
         Texts.law(x, "-9-9-9");
         Texts.week(x, "01");
         Check.due("27 of them at 1, 99 at 2", x.ask(0), 1);
+    }
+
+    /** In each valley another one would be asked if 0 or 100 were taken in, too, or 1 or 99 were not. */
+    private static void askedOfOneToNinetyNine() {
+        Check.sentence("the greatest number of SIZES (1 to 99, as they could have been SEEN)");
+        GrowsByHalf zero = Texts.valley("02,21", MODEST, TELLER, TELLER);
+        Texts.law(zero, "-1");
+        Check.due("1 alike at 1 and 2: 0 is none of them", zero.ask(0), 1);
+        GrowsByHalf first = Texts.valley("02,21", DOCTOR, MODEST, TELLER);
+        Texts.law(first, "-1");
+        Check.due("1, 2 and 3 alike at 1: 1 is one of them", first.ask(0), 2);
+        GrowsByHalf last = Texts.valley("03", BRAGGART, TELLER, TELLER, TELLER);
+        Texts.law(last, "-9/6");
+        Check.due("1 to 98 alike at 3: 99 is one of them", last.ask(0), 3);
+        GrowsByHalf hundred = Texts.valley("03", BRAGGART, TELLER, TELLER, TELLER);
+        Texts.law(hundred, "/2/5");
+        Check.due("1 to 99 alike at 3: 100 is none of them", hundred.ask(0), 1);
     }
 
     private static void byHimAlone() {
