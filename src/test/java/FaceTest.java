@@ -88,8 +88,18 @@ final class FaceTest {
             Check.isTrue(one + " is static inside", one == GrowsByHalf.class || Modifier.isStatic(one.getModifiers()));
             for (Method method : one.getDeclaredMethods()) {
                 Check.isTrue(method + " takes seven parameters at most", method.getParameterCount() <= 7);
+                Check.isTrue(method + " bears no name of the face", one == GrowsByHalf.class || !isOfFace(method));
             }
         }
+    }
+
+    private static boolean isOfFace(Method method) {
+        for (String signature : FACE) {
+            if (signature.contains(" " + method.getName() + "(")) {
+                return true;
+            }
+        }
+        return false;
     }
 
     private static void source(List<String> lines) {
